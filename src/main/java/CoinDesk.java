@@ -33,8 +33,8 @@ public final class CoinDesk {
         mostSpent = 2 * most;
         unspentCoins = new Pile(most);
         blankCoins = new Pile(most + mostSpent);
-        // The records hold at most mostSpent spendings, and at most that many makings and those
-        // of the coins that are unspent now.
+        // The records tell at most mostSpent spendings; and each coin that they made is spent and
+        // kept, or unspent, so they tell at most mostSpent + most makings.
         journal = new Journal(most + 2 * mostSpent);
     }
 
