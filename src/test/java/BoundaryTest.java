@@ -137,7 +137,7 @@ public final class BoundaryTest {
         says("Terms", "at first all numbers of the key are 0, and the script has no bytes", BoundaryTest::firstHand);
         says("Terms", "BLOCKS: one can be OPEN", BoundaryTest::oneOpenBlock);
         says("Terms", "The HEIGHT is how many blocks were ended and not taken back", BoundaryTest::heightOfEnded);
-        says("Terms", "The HEIGHT is how many blocks were ended (also beyond the 64 records)",
+        says("Terms, beyond the 64 records", "The HEIGHT is how many blocks were ended and not taken back",
                 BoundaryTest::heightBeyondTheRecords);
         says("Terms", "In an open block coins are made and spent (also such as it made)",
                 BoundaryTest::spendingWhatTheBlockMade);
@@ -147,20 +147,20 @@ public final class BoundaryTest {
                 BoundaryTest::takingBackWhatWasMadeAndSpent);
         says("Terms", "The OLDEST record can be FORGOTTEN: it can't be taken back then",
                 BoundaryTest::forgottenIsNotTakenBack);
-        says("Terms", "the coins that it spent are gone (and no others)", BoundaryTest::onlySpentCoinsGo);
+        says("Terms, no others", "the coins that it spent are gone", BoundaryTest::onlySpentCoinsGo);
         says("Terms", "All memory is the class's own", BoundaryTest::twoDesks);
     }
 
     private static void limitsAndFaults() {
         says("Terms", "LIMITS: U unspent coins", BoundaryTest::limitOfUnspent);
-        says("Terms", "LIMITS: U unspent coins (room comes again)", BoundaryTest::roomForUnspentAgain);
-        says("Terms", "LIMITS: 2 * U spent ones that are kept", BoundaryTest::limitOfSpent);
-        says("Terms", "LIMITS: 2 * U spent ones that are kept (in all records)",
+        says("Terms, room comes again", "LIMITS: U unspent coins", BoundaryTest::roomForUnspentAgain);
+        says("Terms, LIMITS", "2 * U spent ones that are kept", BoundaryTest::limitOfSpent);
+        says("Terms, LIMITS, in all records", "2 * U spent ones that are kept",
                 BoundaryTest::limitOfSpentInAllRecords);
-        says("Terms", "LIMITS: 2 * U spent ones that are kept (room comes again)", BoundaryTest::roomForSpentAgain);
-        says("Terms", "LIMITS: 64 records (that of an open block is one of them)", BoundaryTest::limitOfRecords);
-        says("Terms", "FAULTS, the first of these that is so: making", BoundaryTest::firstFaultOfMaking);
-        says("Terms", "FAULTS, the first of these that is so: spending", BoundaryTest::firstFaultOfSpending);
+        says("Terms, LIMITS, room comes again", "2 * U spent ones that are kept", BoundaryTest::roomForSpentAgain);
+        says("Terms, LIMITS", "64 records (that of an open block is one of them)", BoundaryTest::limitOfRecords);
+        says("Terms, making", "FAULTS, the first of these that is so", BoundaryTest::firstFaultOfMaking);
+        says("Terms, spending", "FAULTS, the first of these that is so", BoundaryTest::firstFaultOfSpending);
         says("Terms", "Without a fault: 0", BoundaryTest::noFault);
     }
 
@@ -197,14 +197,14 @@ public final class BoundaryTest {
     private static void promisesOfTheHand() {
         says("Promise 1", "No coins, no blocks.", BoundaryTest::newObject);
         says("Promise 1", "U is unspent if that is 2 .. 200", BoundaryTest::limitsThatAreTaken);
-        says("Promise 1", "otherwise 60 (too small)", () -> limitIsSixty(1, 0, -1, -60, Integer.MIN_VALUE));
-        says("Promise 1", "otherwise 60 (too large)", () -> limitIsSixty(201, 202, 256 + 5, 400, Integer.MAX_VALUE));
+        says("Promise 1, too small", "otherwise 60", () -> limitIsSixty(1, 0, -1, -60, Integer.MIN_VALUE));
+        says("Promise 1, too large", "otherwise 60", () -> limitIsSixty(201, 202, 256 + 5, 400, Integer.MAX_VALUE));
         says("Promise 2", "The key in hand.", BoundaryTest::lastKeyCounts);
         says("Promise 3", "The script in hand has no bytes.", BoundaryTest::emptying);
         says("Promise 4", "The lowest n bytes of v, the highest of them first, come behind the script in hand: true",
                 BoundaryTest::lowestBytes);
-        says("Promise 4", "false if n is not 1 .. 8 (too small)", () -> putIsRefused(0, -1, -8, Integer.MIN_VALUE));
-        says("Promise 4", "false if n is not 1 .. 8 (too large)",
+        says("Promise 4, too small", "false if n is not 1 .. 8", () -> putIsRefused(0, -1, -8, Integer.MIN_VALUE));
+        says("Promise 4, too large", "false if n is not 1 .. 8",
                 () -> putIsRefused(9, 10, 16, 200, 256 + 1, Integer.MAX_VALUE - 7, Integer.MAX_VALUE));
         says("Promise 4", "or there would be more than 200", BoundaryTest::puttingUpToFull);
     }
@@ -213,7 +213,7 @@ public final class BoundaryTest {
         says("Promise 5", "A block is open: true; false if one is", BoundaryTest::beginningTwice);
         says("Promise 5", "or there are 64 records", BoundaryTest::beginningBesideAllRecords);
         says("Promise 6", "A coin of the key and script in hand is made, at the height.", BoundaryTest::makingAtHeight);
-        says("Promise 6", "A coin of the key and script in hand is made (the longest, then none, then the longest)",
+        says("Promise 6, the longest and the empty script", "A coin of the key and script in hand is made",
                 BoundaryTest::makingLongAndEmptyScripts);
         says("Promise 6", "A fault, or 0.", BoundaryTest::makingEachFault);
         says("Promise 7", "A fault, or 0.", BoundaryTest::spendingEachFault);
@@ -235,11 +235,11 @@ public final class BoundaryTest {
         says("Promise 12", "-1 if there is none", BoundaryTest::lookingAtNone);
         says("Promise 12", "or for another what", BoundaryTest::lookingForAnother);
         says("Promise 13", "Byte i of its script", BoundaryTest::everyByte);
-        says("Promise 13", "-1 if there is none (no such byte)", BoundaryTest::noSuchByte);
-        says("Promise 13", "-1 if there is none (no such coin)", BoundaryTest::bytesOfNone);
+        says("Promise 13, no such byte", "-1 if there is none.", BoundaryTest::noSuchByte);
+        says("Promise 13, no such coin", "-1 if there is none.", BoundaryTest::bytesOfNone);
         says("Promise 14", "-1 for another what.", BoundaryTest::countingAnother);
         says("Promise 14", "4 whether a block is open (1 or 0)", BoundaryTest::countingOpen);
-        says("Promise 15", "The sum of the values of all unspent coins (of none)", BoundaryTest::totalOfNone);
+        says("Promise 15, of none", "The sum of the values of all unspent coins", BoundaryTest::totalOfNone);
         says("Promise 15", "(it wraps)", BoundaryTest::totalWraps);
     }
 
@@ -699,7 +699,7 @@ public final class BoundaryTest {
 
     /** Two desks alike, of which one is asked what it refuses; then both go on, and answer the same. */
     private static void refused(String which, Consumer<Desk> before, long answer, ToLongFunction<CoinDesk> call) {
-        says("Terms", "A call that is refused changes nothing. (" + which + ")", () -> {
+        says("Terms, " + which, "A call that is refused changes nothing.", () -> {
             for (int way = 0; way < WAYS_ON; way++) {
                 Desk spared = new Desk(3);
                 Desk asked = new Desk(3);
