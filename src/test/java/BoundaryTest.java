@@ -14,7 +14,7 @@ public final class BoundaryTest {
         Integer.MAX_VALUE};
 
     private static int wrong = 0;
-    private static int sentences = 0;
+    private static int cases = 0;
     private static String sentence = "";
 
     /** A desk that counts its calls: the document promises nothing after the 512th. */
@@ -107,7 +107,7 @@ public final class BoundaryTest {
     }
 
     private static void says(String where, String words, Runnable test) {
-        sentences++;
+        cases++;
         sentence = where + ": \"" + words + "\"";
         test.run();
     }
@@ -119,7 +119,7 @@ public final class BoundaryTest {
         promisesOfTheHand();
         promisesOfBlocks();
         promisesOfAnswers();
-        System.out.println(wrong == 0 ? "all " + sentences + " sentences hold" : wrong + " answers are not as due");
+        System.out.println(wrong == 0 ? "all " + cases + " boundary cases hold" : wrong + " answers are not as due");
         if (wrong != 0) {
             System.exit(1);
         }
