@@ -71,13 +71,18 @@ public final class FaceTest {
         for (String method : FACE) {
             faceNames.add(method.substring(method.indexOf(' ') + 1, method.indexOf('(')));
         }
+        for (Method method : CoinDesk.class.getDeclaredMethods()) {
+            check(method + " has a name of its own",
+                    !Modifier.isPrivate(method.getModifiers()) || !faceNames.contains(method.getName()));
+        }
         for (Field field : CoinDesk.class.getDeclaredFields()) {
             check(field + " is private", Modifier.isPrivate(field.getModifiers()));
             check(field + " is final if static",
                     !Modifier.isStatic(field.getModifiers()) || Modifier.isFinal(field.getModifiers()));
         }
         for (Class<?> inside : CoinDesk.class.getDeclaredClasses()) {
-            check(inside + " is static", Modifier.isStatic(inside.getModifiers()));
+            check(inside + " is static, and not public or protected", Modifier.isStatic(inside.getModifiers())
+                    && !Modifier.isPublic(inside.getModifiers()) && !Modifier.isProtected(inside.getModifiers()));
             for (Method method : inside.getDeclaredMethods()) {
                 check(method + " has a name of its own", !faceNames.contains(method.getName()));
             }

@@ -13,6 +13,7 @@ public final class RoomTest {
     private static final long MOST_OBJECTS = 600_000;
     private static final long MOST_ELEMENTS = 7_300_000;
     private static final int CALLS = 512;
+    private static final int USED_AGAIN = 10;
 
     private static int wrong = 0;
 
@@ -30,46 +31,74 @@ public final class RoomTest {
     }
 
     public static void main(String[] args) throws IllegalAccessException {
-        Room fresh = roomOf(new CoinDesk(200));
-        check("a new object at every call fits: " + fresh.objects + " objects, " + fresh.elements + " elements",
-                fresh.objects * (CALLS + 1) < MOST_OBJECTS && fresh.elements * (CALLS + 1) < MOST_ELEMENTS);
-        CoinDesk busy = new CoinDesk(200);
-        fill(busy);
-        Room full = roomOf(busy);
-        check("a full object fits: " + full.objects + " objects, " + full.elements + " elements",
-                full.objects < MOST_OBJECTS / 10 && full.elements < MOST_ELEMENTS / 10);
-        for (int i = 0; i < 20; i++) {
-            undoAll(busy);
-            fill(busy);
-        }
-        Room again = roomOf(busy);
-        again.seen.removeAll(full.seen);
-        check("coins that are gone are used again, but " + again.seen.size() + " objects are new",
-                again.seen.isEmpty());
+        newObjectsFit();
+        dearestCallsFit();
+        goneCoinsAreUsedAgain();
         System.out.println(wrong == 0 ? "all fits into the room" : wrong + " do not fit");
         if (wrong != 0) {
             System.exit(1);
         }
     }
 
+    private static void newObjectsFit() throws IllegalAccessException {
+        Room fresh = roomOf(new CoinDesk(200));
+        check("a new object at every call fits: " + fresh.objects + " objects, " + fresh.elements + " elements",
+                fresh.objects * (CALLS + 1) < MOST_OBJECTS && fresh.elements * (CALLS + 1) < MOST_ELEMENTS);
+    }
+
+    /** As many coins as 512 calls can make: nearly every second call makes one. */
+    private static void dearestCallsFit() throws IllegalAccessException {
+        CoinDesk x = new CoinDesk(200);
+        x.begin();
+        for (int call = 1; call + 2 < CALLS; call += 2) {
+            x.make(call, false);
+            x.spend();
+        }
+        check("a coin for nearly every second call", x.count(2) == CALLS / 2 - 1);
+        Room full = roomOf(x);
+        check("a full object fits: " + full.objects + " objects, " + full.elements + " elements",
+                full.objects < MOST_OBJECTS / 10 && full.elements < MOST_ELEMENTS / 10);
+    }
+
+    /** Some 310 calls in all, as an object is used for no more than 512. */
+    private static void goneCoinsAreUsedAgain() throws IllegalAccessException {
+        CoinDesk x = new CoinDesk(USED_AGAIN);
+        fill(x);
+        Room full = roomOf(x);
+        for (int i = 0; i < 3; i++) {
+            check("all is taken back", x.back() == 5 * USED_AGAIN);
+            fill(x);
+        }
+        check("no coin is new after back", madeSince(full, x) == 0);
+        check("the spent ones are forgotten", x.forget() == 2 * USED_AGAIN);
+        x.begin();
+        for (int i = 0; i < 2 * USED_AGAIN; i++) {
+            x.spend();
+            x.make(i, false);
+        }
+        check("all coins that there can be", x.count(1) + x.count(2) == 3 * USED_AGAIN);
+        check("no coin is new after forget", madeSince(full, x) == 0);
+    }
+
+    private static int madeSince(Room before, CoinDesk x) throws IllegalAccessException {
+        Room now = roomOf(x);
+        now.seen.removeAll(before.seen);
+        return now.seen.size();
+    }
+
+    /** As many coins as there can be, unspent ones and spent ones. */
     private static void fill(CoinDesk x) {
         x.begin();
-        for (int i = 0; i < 400; i++) {
-            x.key(0, 0, 0, 0, i);
+        for (int i = 0; i < 2 * USED_AGAIN; i++) {
             x.make(i, false);
             x.spend();
         }
-        for (int i = 0; i < 200; i++) {
+        for (int i = 0; i < USED_AGAIN; i++) {
             x.key(0, 0, 0, 0, i);
             x.make(i, false);
         }
         x.end();
-        check("600 coins", x.count(1) + x.count(2) == 600);
-    }
-
-    private static void undoAll(CoinDesk x) {
-        check("1000 things undone", x.back() == 1000);
-        check("no coins", x.count(1) + x.count(2) == 0);
+        check("all coins that there can be", x.count(1) + x.count(2) == 3 * USED_AGAIN);
     }
 
     private static Room roomOf(Object root) throws IllegalAccessException {
